@@ -336,7 +336,7 @@ public final class HeavierByHand {
             // A gain without a ROW leaves 0 here, and so no HAND, just as it leaves no WAYS.
             hands &= table.inAll(now.purseBegin[i], now.purseGain[i], now.error, low, high);
         }
-        return Integer.bitCount(hands) == 1 ? Integer.numberOfTrailingZeros(hands) : NONE;
+        return onlyOne(hands);
     }
 
     public int chosen(int n, int k, int i) {
@@ -479,6 +479,19 @@ public final class HeavierByHand {
             }
         }
         return 1;
+    }
+
+    private static int onlyOne(int bits) {
+        int found = NONE;
+        for (int hand = 0; hand < MOST_HANDS; hand++) {
+            if ((bits >> hand & 1) == 1) {
+                if (found != NONE) {
+                    return NONE;
+                }
+                found = hand;
+            }
+        }
+        return found;
     }
 
     private RowTable tableOfAll() {
