@@ -1,18 +1,43 @@
+import java.util.List;
+import java.util.function.Function;
+import java.util.function.Supplier;
+import java.util.function.ToLongFunction;
+
 /** Counts the answers that are not as due, and feeds texts. */
 final class Due {
     private int wrong = 0;
     private int asked = 0;
+    private String sentence = "";
+
+    /** What is asked from here on is due by these words of the document. */
+    void sentence(String words) {
+        sentence = words;
+    }
 
     void is(String what, long got, long want) {
         asked++;
         if (got != want) {
             wrong++;
-            System.out.println(what + " answered " + got + ", due is " + want);
+            System.out.println(what + " answered " + got + ", due is " + want + (sentence.isEmpty() ? "" : ": " + sentence));
         }
     }
 
     void is(String what, boolean got, boolean want) {
         is(what, got ? 1 : 0, want ? 1 : 0);
+    }
+
+    /** A call that answers this and leaves all as it was: what can be seen behind it is seen without it, too. */
+    void leaves(String call, Supplier<HeavierByHand> made, ToLongFunction<HeavierByHand> doing, long want) {
+        for (Function<HeavierByHand, List<Long>> look : Looks.PARTS) {
+            HeavierByHand with = made.get();
+            is(call, doing.applyAsLong(with), want);
+            List<Long> seen = look.apply(with);
+            List<Long> seenWithout = look.apply(made.get());
+            is("what is seen behind " + call + ", how much", seen.size(), seenWithout.size());
+            for (int i = 0; i < seen.size() && i < seenWithout.size(); i++) {
+                is("what is seen behind " + call + ", " + i, seen.get(i), seenWithout.get(i));
+            }
+        }
     }
 
     /** Makes the tape these signs and no others. */

@@ -334,7 +334,7 @@ public final class CoinTests {
         x.coin(60, 2);
         x.coin(50, 2);
         x.coin(50, 2);
-        // X: 2, 513, 26095 ..: HAND 2 pays to 0, by 2 % 3 and 513 % 3; of the two of 50 the first.
+        // X: 2, 513, 26099 ..: HAND 2 pays to 0, by 2 % 3 and 513 % 3; of the two of 50 the first.
         due.is("market(0, 1)", x.market(0, 1), 1);
         due.is("of(1, 1)", x.of(1, 1), 0);
         due.is("of(1, 0)", x.of(1, 0), 55);
