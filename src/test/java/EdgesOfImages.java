@@ -9,7 +9,9 @@ public final class EdgesOfImages {
         imageOfTheFull();
         allAsItIs();
         stepsAsWell();
+        stepsOverwritten();
         stepsOfTheFull();
+        purseAsItWas();
         tapeStays();
         faultStays();
         textsAreGone();
@@ -150,6 +152,56 @@ public final class EdgesOfImages {
         due.is("about(7)", none.about(7), 0);
         due.is("undo()", none.undo(), -1);
         due.is("of(0, 0)", none.of(0, 0), 100);
+    }
+
+    /** Taken back behind THE IMAGE, and others of another COIN, HAND and TIMES in their places. */
+    private static void stepsOverwritten() {
+        due.sentence("STEPS as well,");
+        HeavierByHand x = Worlds.small();
+        x.coin(50, 2);
+        x.pay(0, 1);
+        x.pay(0, 2);
+        x.wash(0);
+        x.image();
+        x.undo();
+        x.undo();
+        x.undo();
+        x.wash(1);
+        x.pay(1, 1);
+        x.wash(1);
+        x.back();
+        int[] weights = {119, 107, 100};
+        int[] holders = {2, 1, 0};
+        int[] times = {2, 1, 0};
+        for (int i = 0; i < 3; i++) {
+            due.is("undo()", x.undo(), 0);
+            due.is("of(0, 0)", x.of(0, 0), weights[i]);
+            due.is("of(0, 1)", x.of(0, 1), holders[i]);
+            due.is("of(0, 2)", x.of(0, 2), times[i]);
+        }
+        due.is("undo()", x.undo(), -1);
+        due.is("of(1, 0)", x.of(1, 0), 50);
+    }
+
+    private static void purseAsItWas() {
+        due.sentence("AN IMAGE: all as it is,");
+        HeavierByHand x = Worlds.hands(5, 7, 12);
+        x.rules(0, 0);
+        x.purse(0, 7);
+        x.purse(2, 7);
+        x.image();
+        x.purse(-1, 0);
+        // Neither the gains nor who begins are those of THE IMAGE.
+        x.purse(1, 12);
+        x.purse(1, 5);
+        due.is("told(1, 1)", x.told(1, 1), -1);
+        x.back();
+        due.is("about(8)", x.about(8), 2);
+        due.is("told(1, 1)", x.told(1, 1), 1);
+        due.is("odds(1, 1, 1, 0)", x.odds(1, 1, 1, 0), 1);
+        due.is("odds(1, 1, 1, 1)", x.odds(1, 1, 1, 1), 1);
+        due.is("purse(0, 5)", x.purse(0, 5), 3);
+        due.is("odds(1, 1, 1, 1), from HAND 0 there is no 5", x.odds(1, 1, 1, 1), -1);
     }
 
     private static void stepsOfTheFull() {

@@ -6,6 +6,7 @@ public final class EdgesOfRows {
 
     public static void main(String[] args) {
         byGrainsAsTold();
+        byGrainsToldAnew();
         lengths();
         noHands();
         twelveHands();
@@ -17,6 +18,8 @@ public final class EdgesOfRows {
         order();
         rowOfNone();
         inAllAndInSome();
+        inRowsOfLikeGrains();
+        inRowsOfEachLength();
         inNone();
         amongOthers();
         purse();
@@ -61,6 +64,35 @@ public final class EdgesOfRows {
         y.hand(28);
         due.is("rows(0, 29, 1, 1)", y.rows(0, 29, 1, 1), 0);
         due.is("rows(0, 28, 1, 1)", y.rows(0, 28, 1, 1), 1);
+    }
+
+    /** As many HANDS as before, of other GRAINS: the first, the last or all of them are others. */
+    private static void byGrainsToldAnew() {
+        due.sentence("ROWS, by GRAINS as told:");
+        int[][] anew = {{6, 7}, {5, 8}, {6, 8}};
+        for (int[] grains : anew) {
+            HeavierByHand x = exact(5, 7);
+            due.is("rows(1, 5, 1, 1)", x.rows(1, 5, 1, 1), 1);
+            due.is("among(0, 7, 1, 1, true)", x.among(0, 7, 1, 1, true), 2);
+            due.is("rows(0, 19, 0, 3)", x.rows(0, 19, 0, 3), 1);
+            x.purse(0, 7);
+            due.is("odds(1, 1, 1, 0)", x.odds(1, 1, 1, 0), 1);
+            x.back();
+            x.hand(grains[0]);
+            x.hand(grains[1]);
+            x.rules(0, 0);
+            for (int gain = 0; gain <= 20; gain++) {
+                boolean first = gain == grains[0];
+                boolean second = gain == grains[1];
+                due.is("rows(1, " + gain + ", 1, 1)", x.rows(1, gain, 1, 1), first ? 1 : 0);
+                due.is("rows(0, " + gain + ", 1, 1)", x.rows(0, gain, 1, 1), second ? 1 : 0);
+                due.is("among(1, " + gain + ", 1, 1, true)", x.among(1, gain, 1, 1, true), first ? 1 : 0);
+                due.is("among(0, " + gain + ", 1, 1, false)", x.among(0, gain, 1, 1, false), second ? 2 : 0);
+            }
+            due.is("rows for all three", x.rows(0, grains[0] + 2 * grains[1], 0, 3), 1);
+            x.purse(0, 7);
+            due.is("odds(1, 1, 1, 0)", x.odds(1, 1, 1, 0), grains[1] == 7 ? 1 : -1);
+        }
     }
 
     private static void lengths() {
@@ -112,6 +144,9 @@ public final class EdgesOfRows {
         }
         due.is("row(9, 360, 12, 12, 12)", x.row(9, 360, 12, 12, 12), -1);
         x.rules(0, 9);
+        due.is("among(9, 360, 12, 12, true)", x.among(9, 360, 12, 12, true), 1023);
+        due.is("among(9, 360, 12, 12, false)", x.among(9, 360, 12, 12, false), 0);
+        due.is("among(9, 370, 12, 12, true)", x.among(9, 370, 12, 12, true), 0);
         due.is("rows(9, 351, 12, 12)", x.rows(9, 351, 12, 12), 282429536481L);
         due.is("rows(9, 350, 12, 12)", x.rows(9, 350, 12, 12), 0);
         due.is("rows(9, 369, 12, 12)", x.rows(9, 369, 12, 12), 282429536481L);
@@ -143,6 +178,10 @@ public final class EdgesOfRows {
         HeavierByHand x = exact(5, 20, 30);
         due.is("rows(1, 10, 2, 2)", x.rows(1, 10, 2, 2), 0);
         due.is("rows(1, 15, 0, 12)", x.rows(1, 15, 0, 12), 0);
+        due.is("row(1, 10, 2, 2, -1)", x.row(1, 10, 2, 2, -1), -1);
+        due.is("among(1, 10, 2, 2, true)", x.among(1, 10, 2, 2, true), 0);
+        due.is("among(1, 10, 2, 2, false)", x.among(1, 10, 2, 2, false), 0);
+        due.is("among(1, 35, 3, 3, true)", x.among(1, 35, 3, 3, true), 0);
         due.is("rows(1, 30, 3, 3), 5 20 5", x.rows(1, 30, 3, 3), 1);
         due.is("row(1, 30, 3, 3, 0)", x.row(1, 30, 3, 3, 0), 0);
         due.is("row(1, 30, 3, 3, 1)", x.row(1, 30, 3, 3, 1), 1);
@@ -284,6 +323,37 @@ public final class EdgesOfRows {
         ten.rules(0, 9);
         due.is("among of all", ten.among(1, 9, 0, 2, true), 510);
         due.is("among of all", ten.among(1, 30, 1, 3, true), 1023);
+    }
+
+    private static void inRowsOfLikeGrains() {
+        due.sentence("IN ALL: HANDS (bits) that are in each; IN SOME;");
+        HeavierByHand x = exact(1, 1, 1);
+        // Of three HANDS from 0: 1 0 1, 1 0 2, 1 2 0, 1 2 1, 2 0 1, 2 0 2, 2 1 0, 2 1 2.
+        due.is("among(0, 3, 3, 3, true)", x.among(0, 3, 3, 3, true), 7);
+        due.is("among(0, 3, 3, 3, false)", x.among(0, 3, 3, 3, false), 0);
+        // From 0 all but it by one HAND, it too by two.
+        due.is("among(0, 1, 1, 1, true)", x.among(0, 1, 1, 1, true), 6);
+        due.is("among(0, 2, 2, 2, true)", x.among(0, 2, 2, 2, true), 7);
+        HeavierByHand y = exact(9, 9, 9, 20);
+        // 20 stands once, between, ahead of or behind two of 9: HAND 3 is IN ALL, and no other one.
+        due.is("among(3, 38, 3, 3, false)", y.among(3, 38, 3, 3, false), 8);
+        due.is("among(3, 38, 3, 3, true)", y.among(3, 38, 3, 3, true), 15);
+        due.is("among(0, 47, 4, 4, false)", y.among(0, 47, 4, 4, false), 8);
+    }
+
+    /** Two HANDS take turns: from either there is one ROW of each length, and its sum tells which HANDS are in it. */
+    private static void inRowsOfEachLength() {
+        due.sentence("IN ALL: HANDS (bits) that are in each; IN SOME;");
+        HeavierByHand x = exact(29, 30);
+        for (int k = 1; k <= 12; k++) {
+            int gain = k / 2 * 59 + k % 2 * 30;
+            int both = k == 1 ? 2 : 3;
+            due.is("rows of " + k, x.rows(0, gain, k, k), 1);
+            due.is("in all of " + k, x.among(0, gain, k, k, false), both);
+            due.is("in some of " + k, x.among(0, gain, k, k, true), both);
+            due.is("in all of 0 to 12, for " + k, x.among(0, gain, 0, 12, false), both);
+            due.is("the last of " + k, x.row(0, gain, k, k, k - 1), k % 2);
+        }
     }
 
     private static void inNone() {

@@ -13,6 +13,7 @@ public final class EdgesOfTexts {
         endedBeyond();
         told();
         toldWithAFault();
+        toldBehindLongOnes();
         fourTexts();
         faultAheadOfAny();
         faultOfOthers();
@@ -24,6 +25,7 @@ public final class EdgesOfTexts {
         signs();
         twentyClauses();
         clauseForms();
+        clausesCutShort();
         eithers();
         boths();
         asks();
@@ -156,6 +158,23 @@ public final class EdgesOfTexts {
         due.is("played(1)", x.played(1), -2);
         due.is("text() of the next", Due.tell(x, "grain 7;"), 1);
         due.is("gives by the one that rules", x.gives(1, 0), 9);
+    }
+
+    /** However much was read ahead of it, a text has room for all that 300 bytes can say. */
+    private static void toldBehindLongOnes() {
+        due.sentence("NONE: it has a FAULT;");
+        HeavierByHand x = Worlds.small();
+        String most = "grain 240" + "-1".repeat(145);
+        for (int i = 0; i < 3; i++) {
+            due.is("text() with a FAULT", Due.tell(x, most + "!"), -1);
+            due.is("fault(1)", x.fault(1), 299);
+            due.is("text()", Due.tell(x, most + ";"), i);
+            x.by(i);
+            due.is("gives", x.gives(1, 0), 95);
+        }
+        due.is("text()", Due.tell(x, "grain 8;"), 3);
+        x.by(3);
+        due.is("gives", x.gives(1, 0), 8);
     }
 
     private static void fourTexts() {
@@ -369,6 +388,17 @@ public final class EdgesOfTexts {
         due.faulty("wash -1;", 1, 5);
         due.faulty("wait (1);", 1, 5);
         due.faulty("wait hour;", 1, 5);
+    }
+
+    private static void clausesCutShort() {
+        due.sentence("glove EITHER ; or grain SUM ; (each once) or pay NUMBER to NUMBER ; or wash NUMBER ;"
+            + " or wait NUMBER ;.");
+        String[] forms = {"glove", "glove 1", "glove 1<", "glove not", "glove 1<2 and", "grain", "grain 1+", "grain (1",
+            "pay", "pay 1", "pay 1 to", "wash", "wait"};
+        for (String form : forms) {
+            due.faulty(form + ";", 1, form.length());
+            due.faulty(form + " wait 1;", 1, form.length() + 1);
+        }
     }
 
     private static void eithers() {

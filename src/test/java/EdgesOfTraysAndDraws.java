@@ -6,6 +6,7 @@ public final class EdgesOfTraysAndDraws {
 
     public static void main(String[] args) {
         sortedOthers();
+        twoToSixTrays();
         sortedOfNone();
         notAbove();
         cutsAtNoughtAndAtTheMost();
@@ -14,6 +15,8 @@ public final class EdgesOfTraysAndDraws {
         wrong();
         leastCuts();
         allCoins();
+        coinsInAnyOrder();
+        coinsSideBySide();
         seeds();
         leastAndMostDrawn();
         errorOfNought();
@@ -45,6 +48,24 @@ public final class EdgesOfTraysAndDraws {
         for (int t : new int[] {1, 7, 0, -1, LEAST, GREATEST}) {
             due.is("sorted(" + t + ", 0)", x.sorted(t, 0), -1);
             due.is("sorted(" + t + ", 1)", x.sorted(t, 1), -1);
+        }
+    }
+
+    private static void twoToSixTrays() {
+        due.sentence("SORTED into t TRAYS (2 to 6):");
+        HeavierByHand x = Worlds.hands(1);
+        x.coin(10, 0);
+        x.coin(20, 0);
+        x.tray(0, 0);
+        for (int t = 1; t <= 7; t++) {
+            // The heavier one in the last of them, and in the first that is beyond.
+            x.tray(1, Math.min(5, t - 1));
+            due.is("sorted(" + t + ", 0), the last TRAY", x.sorted(t, 0), t < 2 || t > 6 ? -1 : 0);
+            due.is("sorted(" + t + ", 1), the last TRAY", x.sorted(t, 1), t < 2 || t > 6 ? -1 : 11);
+            if (t <= 5) {
+                x.tray(1, t);
+                due.is("sorted(" + t + ", 0), beyond", x.sorted(t, 0), t < 2 ? -1 : 1);
+            }
         }
     }
 
@@ -216,6 +237,48 @@ public final class EdgesOfTraysAndDraws {
         due.is("sorted(2, 1), above all", x.sorted(2, 1), 476);
     }
 
+    /** The same COINS told from the lightest, from the heaviest, and crosswise; some of like WEIGHT. */
+    private static void coinsInAnyOrder() {
+        due.sentence("The least WRONG; of like ones the least c1, then c2, ..");
+        int[] weights = {0, 0, 10, 20, 20, 30, 40, 50, 50, 60};
+        int[] trays = {0, 0, 0, 1, 1, 2, 2, 3, 3, 4};
+        int[] cuts = {11, 21, 41, 51};
+        int[][] orders = {{0, 1, 2, 3, 4, 5, 6, 7, 8, 9}, {9, 8, 7, 6, 5, 4, 3, 2, 1, 0}, {5, 0, 9, 4, 1, 8, 3, 2, 7, 6}};
+        for (int[] order : orders) {
+            HeavierByHand x = Worlds.hands(1);
+            for (int i = 0; i < order.length; i++) {
+                x.coin(weights[order[i]], 0);
+                x.tray(i, trays[order[i]]);
+            }
+            due.is("sorted(5, 0)", x.sorted(5, 0), 0);
+            for (int i = 1; i <= 4; i++) {
+                due.is("sorted(5, " + i + ")", x.sorted(5, i), cuts[i - 1]);
+            }
+            due.is("sorted(6, 5)", x.sorted(6, 5), 61);
+            due.is("sorted(4, 0)", x.sorted(4, 0), 1);
+            due.is("sorted(4, 3)", x.sorted(4, 3), 41);
+        }
+    }
+
+    /** WEIGHTS side by side: each CUT is at one of them and just above another. */
+    private static void coinsSideBySide() {
+        due.sentence("a COIN lies in the TRAY that is how many CUTS are not above its WEIGHT.");
+        int[][] orders = {{0, 1, 2, 3}, {3, 2, 1, 0}, {2, 0, 3, 1}, {1, 3, 0, 2}};
+        for (int[] order : orders) {
+            HeavierByHand x = Worlds.hands(1);
+            for (int i = 0; i < 4; i++) {
+                x.coin(100 + order[i], 0);
+                x.tray(i, order[i]);
+            }
+            due.is("sorted(4, 0)", x.sorted(4, 0), 0);
+            for (int i = 1; i <= 3; i++) {
+                due.is("sorted(4, " + i + ")", x.sorted(4, i), 100 + i);
+            }
+            due.is("sorted(2, 0)", x.sorted(2, 0), 2);
+            due.is("sorted(2, 1)", x.sorted(2, 1), 101);
+        }
+    }
+
     private static void seeds() {
         due.sentence("READ by a SEED: X is SEED (0 .. 9999) * 7 + 2; WEIGHT less ERROR and a draw by 2 ERROR + 1 more;");
         HeavierByHand x = Worlds.small();
@@ -275,11 +338,14 @@ public final class EdgesOfTraysAndDraws {
         due.is("read without COINS", new HeavierByHand().read(0, 0), -100);
     }
 
-    /** Ten HANDS that HOLD two COINS each, so that every turn of two unlike HANDS is a payment. */
-    private static HeavierByHand busy() {
-        HeavierByHand x = Worlds.hands(1, 1, 1, 1, 1, 1, 1, 1, 1, 1);
-        for (int i = 0; i < 20; i++) {
-            x.coin(500, i % 10);
+    /** HANDS that HOLD two COINS each, so that every turn of two unlike HANDS is a payment at first. */
+    private static HeavierByHand busy(int hands) {
+        HeavierByHand x = new HeavierByHand();
+        for (int i = 0; i < hands; i++) {
+            x.hand(1);
+        }
+        for (int i = 0; i < 2 * hands; i++) {
+            x.coin(500, i % hands);
         }
         return x;
     }
@@ -303,32 +369,40 @@ public final class EdgesOfTraysAndDraws {
     }
 
     private static void drawsWrap() {
-        due.sentence("X being (X * 227 + 59) mod 30137 then.");
-        for (int seed : new int[] {0, 1, 4305, 4306, 9998, 9999}) {
-            HeavierByHand x = busy();
-            long drawn = seed * 7L + 2;
-            int paid = 0;
-            int[] held = new int[10];
-            java.util.Arrays.fill(held, 2);
-            for (int turn = 0; turn < 99; turn++) {
-                int from = (int) (drawn % 10);
-                drawn = (drawn * 227 + 59) % 30137;
-                int to = (int) (drawn % 10);
-                drawn = (drawn * 227 + 59) % 30137;
-                if (from != to && held[from] > 0) {
-                    held[from]--;
-                    held[to]++;
-                    paid++;
+        due.sentence("A MARKET of n turns by a SEED: each: a HAND pays by a draw (of all),");
+        for (int hands = 1; hands <= 10; hands++) {
+            for (int seed : new int[] {0, 1, 4305, 4306, 9998, 9999}) {
+                for (int turns : new int[] {1, 2, 99}) {
+                    drawn(hands, seed, turns);
                 }
             }
-            due.is("market(" + seed + ", 99)", x.market(seed, 99), paid);
-            for (int hand = 0; hand < 10; hand++) {
-                int holds = 0;
-                for (int coin = 0; coin < 20; coin++) {
-                    holds += x.of(coin, 1) == hand ? 1 : 0;
-                }
-                due.is("COINS of HAND " + hand + " behind " + seed, holds, held[hand]);
+        }
+    }
+
+    private static void drawn(int hands, int seed, int turns) {
+        HeavierByHand x = busy(hands);
+        long drawn = seed * 7L + 2;
+        int paid = 0;
+        int[] held = new int[hands];
+        java.util.Arrays.fill(held, 2);
+        for (int turn = 0; turn < turns; turn++) {
+            int from = (int) (drawn % hands);
+            drawn = (drawn * 227 + 59) % 30137;
+            int to = (int) (drawn % hands);
+            drawn = (drawn * 227 + 59) % 30137;
+            if (from != to && held[from] > 0) {
+                held[from]--;
+                held[to]++;
+                paid++;
             }
+        }
+        due.is("market(" + seed + ", " + turns + ") of " + hands, x.market(seed, turns), paid);
+        for (int hand = 0; hand < hands; hand++) {
+            int holds = 0;
+            for (int coin = 0; coin < 2 * hands; coin++) {
+                holds += x.of(coin, 1) == hand ? 1 : 0;
+            }
+            due.is("COINS of HAND " + hand + " behind " + seed, holds, held[hand]);
         }
     }
 
